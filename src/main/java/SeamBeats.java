@@ -627,7 +627,7 @@ public final class SeamBeats {
         int crossing = 0;
         int handed = 0;
 
-        /** Makes it new; an undone seam may have left its items here. */
+        /** Makes it new, whatever an undone seam left here. */
         void begin(int fromRoom, int toRoom, int newSize, int newCrossing) {
             from = fromRoom;
             to = toRoom;

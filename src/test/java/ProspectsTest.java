@@ -1,9 +1,11 @@
+import java.lang.reflect.Method;
+
 /** Promises 19 to 24: ifRun, outIn, bestPhase, slowest, outShare, digest. */
 public final class ProspectsTest {
     private static final int NONE = SeamBeats.NONE;
     private static final int[] FAR = {Integer.MIN_VALUE, -2, -1, 1000, Integer.MAX_VALUE};
 
-    public static void main(String[] args) {
+    public static void main(String[] args) throws ReflectiveOperationException {
         ifRun();
         ifRunCountsOnlyWhatComes();
         ifRunRefuses();
@@ -17,6 +19,7 @@ public final class ProspectsTest {
         digestOfANewObject();
         digestFollowsTheList();
         digestTellsStatesApart();
+        digestHasTheBitsOfEachShare();
         Check.end();
     }
 
@@ -221,7 +224,9 @@ public final class ProspectsTest {
         x.putAll();
         x.run(1);
         Check.look(x, "slowest() without waits", NONE, x::slowest);
-        x.run(2);
+        x.run(1);
+        Check.look(x, "slowest() with one wait each", 1, x::slowest);
+        x.run(1);
         Check.look(x, "slowest(): both as much, the lowest", 1, x::slowest);
         x.route(1, NONE);
         x.run(1);
@@ -318,6 +323,8 @@ public final class ProspectsTest {
         x.beat(1, 3, 2);
         x.beat(2, 2, 0);
         x.lose(0, 3);
+        x.lose(5, 20);
+        x.lose(5, 20);
         Check.type(x, "0=10*5;1=20*4;3=99*7;4=1");
         x.putAll();
         Check.type(x, "0=~");
@@ -341,6 +348,18 @@ public final class ProspectsTest {
             }
             Check.dueTrue("digest() in the round " + round, x.digest() != before);
             Check.due("digest() by calls in the round " + round, x.digest(), digestByCalls(x, ""));
+        }
+    }
+
+    /** The class makes the bits by itself, as its library has no function for them. */
+    private static void digestHasTheBitsOfEachShare() throws ReflectiveOperationException {
+        Method bits = SeamBeats.class.getDeclaredMethod("bitsOfShare", double.class);
+        bits.setAccessible(true);
+        for (int put = 1; put <= 999; put++) {
+            for (int out = 0; out <= put; out++) {
+                double share = (double) out / put;
+                Check.due("the bits of " + share, (long) bits.invoke(null, share), Double.doubleToLongBits(share));
+            }
         }
     }
 }
