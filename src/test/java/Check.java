@@ -7,8 +7,14 @@ final class Check {
     private static final int SHOWN = 40;
     private static int wrong = 0;
     private static int checks = 0;
+    private static String sentence = "";
 
     private Check() {
+    }
+
+    /** The words of the document, at times shortened, that the checks from here on are about: told with what is wrong. */
+    static void says(String words) {
+        sentence = "\"" + words + "\": ";
     }
 
     static void due(String call, long got, long want) {
@@ -80,7 +86,7 @@ final class Check {
     static void tell(String line) {
         wrong++;
         if (wrong <= SHOWN) {
-            System.out.println(line);
+            System.out.println(sentence + line);
         }
     }
 
