@@ -62,8 +62,11 @@ public final class RandomRunsTest {
             return text(kind);
         }
         if (kind < 62) {
-            same("undo", x::undo, model::undo);
-            return 1;
+            int times = random.nextInt(3) == 0 ? 1 + random.nextInt(6) : 1;
+            for (int i = 0; i < times; i++) {
+                same("undo", x::undo, model::undo);
+            }
+            return times;
         }
         return kind < 85 ? look(kind) : prospect(kind);
     }

@@ -42,6 +42,7 @@ public final class TermsBoundsTest {
         errorsWhateverTheLength();
         undoOfWhatChangesNothing();
         undoOfAllButTheBuffer();
+        undoneSeamsLeaveNothing();
         sixSavedStates();
         oldestStateGoesFirst();
         Check.end();
@@ -815,6 +816,67 @@ public final class TermsBoundsTest {
             }
         }
         return all.toString();
+    }
+
+    /** Room 0 has taken from the seam 0, and sleeps. */
+    private static SeamBeats afterTaking() {
+        SeamBeats x = new SeamBeats();
+        x.seam(1, 0, 2, 1);
+        put(x, "1=10;2=20*4");
+        x.route(2, NONE);
+        x.run(2);
+        x.wake(0, false);
+        return x;
+    }
+
+    private static void undoneSeamsLeaveNothing() {
+        Check.says("Restores the latest saved state");
+        for (int from = 1; from <= 5; from++) {
+            SeamBeats x = afterTaking();
+            // a seam that is undone when its first item was ripe, in what was and in what would be: it would be
+            // the next one in turn
+            Check.due("the seam", x.seam(from, 0, 6, 1), 1);
+            put(x, from + "=30*4");
+            x.route(from, 1);
+            x.run(3);
+            x.wake(0, true);
+            x.run(1);
+            Check.dueTrue("ripe items lie on the seam", x.seamOf(1, 5) > 0);
+            x.ifRun(0, 0);
+            for (int i = 0; i < 6; i++) {
+                x.undo();
+            }
+            goOnAlike(x, afterTaking());
+        }
+    }
+
+    private static void goOnAlike(SeamBeats x, SeamBeats y) {
+        Act[] acts = {a -> a.wake(0, true), a -> a.put(1, 40), a -> a.run(1), a -> a.run(1), a -> a.run(1),
+            a -> a.seam(3, 0, 1, 2), a -> a.put(3, 50), a -> a.run(1), a -> a.run(1), a -> a.run(1)};
+        for (int i = 0; i < acts.length; i++) {
+            Check.due("the prospects before the call " + i, prospects(x), prospects(y));
+            Check.due("the call " + i, acts[i].on(x), acts[i].on(y));
+            String is = picture(x);
+            String due = picture(y);
+            Check.dueTrue("all that can be seen after the call " + i + ": " + is + ", due is " + due, is.equals(due));
+        }
+    }
+
+    /** What would be, in one number. */
+    private static long prospects(SeamBeats x) {
+        long all = 0;
+        for (int ticks = 0; ticks < 6; ticks++) {
+            for (int what = 0; what <= 4; what++) {
+                all = 31 * all + x.ifRun(ticks, what);
+            }
+        }
+        for (int item = 0; item < x.count(2); item++) {
+            all = 31 * all + x.outIn(item);
+        }
+        for (int room = 0; room < 6; room++) {
+            all = 31 * all + x.bestPhase(room);
+        }
+        return all;
     }
 
     private static void sixSavedStates() {
